@@ -558,7 +558,7 @@ public final class NeedOnce {
 
         /** The PART that the FIRST or REST c takes of the PAIR that the CELL of came to. */
         private int partOfPair(int c, int of) {
-            return partAsTold(pairOf[of], formOf[c] == FIRST ? 0 : 1);
+            return partOf[pairOf[of] * MOST_PARTS + (formOf[c] == FIRST ? 0 : 1)];
         }
 
         /** c comes to what another one does; if that is a PAIR, it is that very PAIR. */

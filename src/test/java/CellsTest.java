@@ -1,6 +1,7 @@
 /** Promises 1 to 4: a new object, heap, ofCell, price. */
 public final class CellsTest {
     public static void main(String[] args) {
+        constants();
         newObject();
         textsThatAreTaken();
         firstFaults();
@@ -11,6 +12,13 @@ public final class CellsTest {
         ofCell();
         price();
         Due.end();
+    }
+
+    private static void constants() {
+        int[] got = {NeedOnce.UNKNOWN, NeedOnce.OUTSIDE, NeedOnce.STATE, NeedOnce.FULL, NeedOnce.NONE};
+        int[] due = {-1, -2, -3, -4, -9};
+        for (int k = 0; k < due.length; k++) Due.is("constant", got[k], due[k]);
+        Due.is("LOST", NeedOnce.LOST, Long.MIN_VALUE);
     }
 
     private static void newObject() {
@@ -52,6 +60,7 @@ public final class CellsTest {
         fault("l;x", 2);
         fault("l;p", 3);
         fault("l;p0", 3);
+        fault("l;p:n0", 3);
         fault("l;p1", 4);
         fault("l;p1z", 4);
         fault("l;p11", 4);

@@ -106,6 +106,8 @@ public final class CostTest {
         share(x, 0, 2, 96, 1, 5);
         x.need(0);
         share(x, 0, 2, 25, 1, 10);
+        Due.is("2: refused", Due.heap(x, "l;p1n1;p1n1;p1n1;"), -117);
+        share(x, 0, 2, 25, 1, 10);
         Due.is("17: nothing is changed", x.ofCell(2, 10), 4);
         Due.is("17: nothing is changed", x.ofCell(0, 5), 56);
         Due.is("17: nothing is changed", x.spent(), 3);

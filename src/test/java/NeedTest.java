@@ -5,6 +5,7 @@ public final class NeedTest {
         choices();
         pairs();
         loops();
+        deep();
         wrongs();
         stopsAsSoonAs();
         latest();
@@ -83,6 +84,25 @@ public final class NeedTest {
         Due.is("6: done", x.latest(10), 0);
         Due.is("6: done", x.latest(11), 2);
         Due.is("6: done", x.latest(12), 1);
+    }
+
+    private static void deep() {
+        deep("l;p1n1", 1);
+        deep("l;p1a12;p1n1;p1a33;p1a44;p1n1", 4);
+        deep("l;p1m21;p1n1;p1m33;p1m44;p1n1", 4);
+        deep("l;p1i122;p1a33;p1n1;p1n1", 3);
+        deep("l;p1i123;p1n1;p1a33;p1n1", 3);
+        deep("l;p1i132;p1n0;p1a33;p1n1", 3);
+        deep("l;p1f1;p1t22;p1a33;p1n1", 3);
+        deep("l;p1r1;p1f2;p1t33;p1t44;p1n1", 3);
+        deep("l;p1a11;p1a22;p1a33;p1a44;p1a55;p1a66;p1a77;p1n1", 8);
+        deep("l;p1a11;p1a22;p1a33;p1a44;p1a55;p1a66;p1a77;p1a00", 8);
+    }
+
+    private static void deep(String text, int want) {
+        NeedOnce x = Due.with(text);
+        x.need(0);
+        Due.is("6: deep of " + text, x.latest(1), want);
     }
 
     private static void wrongs() {
@@ -181,6 +201,12 @@ public final class NeedTest {
         Due.is("5: a link", x.need(7), 100);
         Due.is("9: of an awake link", x.shorten(), 1);
         Due.is("9: of its pair", x.ofCell(6, 6), 0);
+        x = Due.with("l;p1f1;p1t23;p1n1;p1n2;p1n3;p1n4;p1n5;p1r1");
+        x.need(1);
+        Due.is("9: the first and the last", x.shorten(), 2);
+        Due.is("28: links", x.many(2), 2);
+        Due.is("28: awake", x.many(1), 1);
+        Due.is("10: the first and the last", x.held(129), 1 + 4 + 8 + 128);
         x = Due.with("l;p1t12;p1n5;p1n6;p1f0");
         x.need(3);
         Due.is("9: one awake is none", x.shorten(), 0);
@@ -256,6 +282,8 @@ public final class NeedTest {
         Due.is("11: nothing is changed", x.many(2), 1);
         Due.is("11: nothing is changed", x.many(1), 1);
         Due.is("11: nothing is changed", x.spent(), 1);
+        Due.is("2: refused", Due.heap(x, "l;p1n1;p1n"), -110);
+        Due.is("11: of the cells there are", x.plainly(0), 7);
         Due.is("11: unknown", x.plainly(4), NeedOnce.UNKNOWN);
         Due.is("11: unknown", x.plainly(-1), NeedOnce.UNKNOWN);
     }
@@ -285,6 +313,16 @@ public final class NeedTest {
         x = Due.with("l;p1t12;p1n5;p1t11;p1r0");
         Due.is("12: held by a link", Due.day(x, 4, 0, 0, 0, 20), 8 + 4 + 2);
         Due.is("12: held by a pair", Due.day(x, 4, 0, 3), 8 + 2);
+        Due.is("12: least and most price", Due.day(x, 0, 1, 10, 0, 0, 9, 11, 0, 1), 10);
+        Due.is("5: need", x.need(3), 100);
+        x.plainly(0);
+        Due.is("12: held by that pair", Due.day(x, 4), 8 + 2);
+        Due.is("12: spent goes on", Due.day(x, 0, 0, 1), 4);
+        x = Due.with("l;p1n5");
+        int[] sixty = new int[60];
+        for (int k = 21; k < 60; k += 2) sixty[k] = 20;
+        Due.row(x, 2, 2, sixty);
+        Due.is("12: to the row's end", x.day(2, 2, 20, 20, 1), NeedOnce.NONE);
     }
 
     private static void dayFirstWrong() {
@@ -329,6 +367,8 @@ public final class NeedTest {
         Due.is("12: day", Due.day(x, 0, 9, 10, 0, 0, 0, 20, 0, 2), 12);
         Due.is("12: price", x.ofCell(0, 1), 3);
         Due.is("12: spent", x.spent(), 0);
+        for (int what = 1; what < 3; what++) Due.is("12: many", x.many(what), 0);
+        Due.is("2: all anew behind a day", Due.heap(x, "l;p3t11;d2n5;w7f0"), 3);
         for (int what = 1; what < 3; what++) Due.is("12: many", x.many(what), 0);
     }
 }
