@@ -531,21 +531,24 @@ public final class NeedOnce {
             }
         }
 
-        /** Both PARTS are NEEDED ahead of looking whether they are numbers: so the document's words go. */
         private int workOutBoth(int c, int depth) {
-            int first = comeTo(partAsTold(c, 0), depth + 1);
-            if (first > CAME_TO_PAIR) return first;
-            int second = comeTo(partAsTold(c, 1), depth + 1);
-            if (second > CAME_TO_PAIR) return second;
-            if (first == CAME_TO_PAIR || second == CAME_TO_PAIR) return CAME_TO_WRONG;
+            int first = comeToNumber(partAsTold(c, 0), depth + 1);
+            if (first >= CAME_TO_PAIR) return first;
+            int second = comeToNumber(partAsTold(c, 1), depth + 1);
+            if (second >= CAME_TO_PAIR) return second;
             return (formOf[c] == SUM ? first + second : first * second) % 100;
         }
 
         private int workOutChoice(int c, int depth) {
-            int by = comeTo(partAsTold(c, 0), depth + 1);
-            if (by > CAME_TO_PAIR) return by;
-            if (by == CAME_TO_PAIR) return CAME_TO_WRONG;
+            int by = comeToNumber(partAsTold(c, 0), depth + 1);
+            if (by >= CAME_TO_PAIR) return by;
             return passOn(c, partAsTold(c, by != 0 ? 1 : 2), depth);
+        }
+
+        /** A number, LOOP or WRONG: a PAIR is WRONG where a number is wanted, and nothing more is NEEDED then. */
+        private int comeToNumber(int c, int depth) {
+            int what = comeTo(c, depth);
+            return what == CAME_TO_PAIR ? CAME_TO_WRONG : what;
         }
 
         private int workOutOfPair(int c, int depth) {

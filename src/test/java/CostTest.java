@@ -4,6 +4,7 @@ public final class CostTest {
         readings();
         kindsAndPrices();
         fromAsleep();
+        pairWhereNumberIsWanted();
         odds();
         oddsRefusals();
         Due.end();
@@ -74,6 +75,20 @@ public final class CostTest {
         Due.is("15: nothing is changed", x.many(2), 1);
         Due.is("15: nothing is changed", x.many(1), 3);
         Due.is("15: nothing is changed", x.spent(), 6);
+    }
+
+    private static void pairWhereNumberIsWanted() {
+        NeedOnce x = Due.with("l;p2a12;p3t00;p4n3");
+        x.reading(0, 5);
+        Due.is("15: what sleeps on costs nothing", x.kinds(2), 7);
+        Due.is("16: what sleeps on costs nothing", x.prices(2), 1022);
+        Due.is("15: of the pair", x.kinds(1), 1);
+        Due.is("16: of the pair", x.prices(1), 8);
+        // The second PART would loop, or not, by that NUMBER; it has no say.
+        x = Due.with("l;p1m12;p1t00;p1i324;p1n3;p1n5");
+        share(x, 0, 3, 102, 1, 1);
+        share(x, 0, 3, 101, 0, 1);
+        share(x, 2, 3, 101, 9, 10);
     }
 
     private static void odds() {

@@ -142,14 +142,14 @@ final class Model {
                     return need(as.get(of.pair).digits[cell.sign == 'f' ? 0 : 1]);
                 }
                 default: {
-                    List<Value> both = new ArrayList<>();
+                    List<Integer> both = new ArrayList<>();
                     for (int part : p) {
                         Value value = need(part);
                         if (value.code > 100) return value;
-                        both.add(value);
+                        if (!value.isNumber()) return new Value(WRONG, null);
+                        both.add(value.code);
                     }
-                    if (!both.stream().allMatch(Value::isNumber)) return new Value(WRONG, null);
-                    int a = both.get(0).code, b = both.get(1).code;
+                    int a = both.get(0), b = both.get(1);
                     int sum = cell.sign == 'a' ? a + b : a * b;
                     while (sum >= 100) sum -= 100;
                     return new Value(sum, null);

@@ -8,6 +8,7 @@ public final class NeedTest {
         deep();
         wrongs();
         stopsAsSoonAs();
+        pairWhereNumberIsWanted();
         latest();
         sleep();
         shorten();
@@ -130,12 +131,36 @@ public final class NeedTest {
         x = Due.with("l;p1i123;p1t23;p1n1;p1n2");
         Due.is("5: the first is a pair", x.need(0), 102);
         Due.is("6: nothing more is needed", x.latest(0), 2);
-        // As the words go: both are needed, then it is looked at whether both are numbers.
-        x = Due.with("l;p1a12;p1t00;p1n3");
-        Due.is("5: a pair in a sum", x.need(0), 102);
-        Due.is("5: the second one was needed", x.ofCell(2, 5), 3);
-        x = Due.with("l;p1m10;p1t00");
-        Due.is("5: a pair, then a loop", x.need(0), 101);
+    }
+
+    /** A PAIR where a number is wanted: WRONG there, and the PARTS behind it sleep on. */
+    private static void pairWhereNumberIsWanted() {
+        for (String sign : new String[] {"a", "m"}) {
+            NeedOnce x = Due.with("l;p2" + sign + "12;p3t00;p4n3");
+            Due.is("5: a pair first", x.need(0), 102);
+            Due.is("5: the second one sleeps on", x.ofCell(2, 4), 0);
+            Due.is("6: worked", x.latest(0), 2);
+            Due.is("6: cost", x.latest(2), 5);
+            Due.is("6: done", x.latest(10), 1);
+            Due.is("6: done", x.latest(11), 0);
+            Due.is("6: done", x.latest(12), NeedOnce.NONE);
+            Due.is("7: spent", x.spent(), 5);
+            Due.is("12: spent", Due.day(x, 0, 0, 21, 0, 1), 8);
+            Due.is("12: first wrong", Due.day(x, 1, 0, 21, 0, 1, 0, 0), 2);
+            x = Due.with("l;p1" + sign + "12;p1n3;p1t00");
+            Due.is("5: a pair second", x.need(0), 102);
+            Due.is("6: the first one was needed", x.latest(0), 3);
+            comesTo("l;p1" + sign + "10;p1t00", 0, 102);
+            comesTo("l;p1" + sign + "12;p1t00;p1f2", 0, 102);
+            comesTo("l;p1" + sign + "11;p1t00", 0, 102);
+            comesTo("l;p1" + sign + "21;p1t00;p1f2", 0, 101);
+            comesTo("l;p1" + sign + "20;p1t11;p1f1", 0, 102);
+            x = Due.with("l;p1" + sign + "23;p1t44;p1f1;p1n1;p1t44");
+            x.need(1);
+            x.shorten();
+            Due.is("5: a pair by a link", x.need(0), 102);
+            Due.is("5: the second one sleeps on", x.ofCell(3, 4), 0);
+        }
     }
 
     private static void latest() {
@@ -256,6 +281,14 @@ public final class NeedTest {
         Due.is("10: a link to one awake", x.held(16), 20);
         x.need(5);
         Due.is("10: awake with a loop", x.held(32), 32);
+        x = Due.with("l;p1t12;p1n5;p1t11;p1f0;p1r0");
+        x.need(0);
+        x.shorten();
+        Due.is("10: links asleep", x.held(8 + 16), 8 + 2 + 16 + 4);
+        x.need(3);
+        x.need(4);
+        Due.is("10: an awake link with a number", x.held(8), 8);
+        Due.is("10: an awake link with a pair", x.held(16), 16 + 2);
         x = Due.with("l;p1t12;p1n5;p1n6;p1i104;p1t33");
         x.need(3);
         Due.is("10: that very pair", x.held(8), 8 + 2 + 4);
@@ -274,7 +307,11 @@ public final class NeedTest {
         plainly("l;p1f1;p1t00", 0, NeedOnce.NONE);
         plainly("l;p1f1;p1t00", 1, 1);
         plainly("l;p1a11;p1f2;p1n3", 0, 3);
-        plainly("l;p1a12;p1t00;p1n3", 0, 3);
+        plainly("l;p1a12;p1t00;p1n3", 0, 2);
+        plainly("l;p1m12;p1t00;p1n3", 0, 2);
+        plainly("l;p1a12;p1n3;p1t00", 0, 3);
+        plainly("l;p1m10;p1t00", 0, 2);
+        plainly("l;p3t12;d2n5;p7a11;w1f0;p4r0;p1a51;p2i104;d5m61", 7, 4);
         NeedOnce x = Due.with("l;p1a11;p1f2;p1t33;p1n3");
         x.need(2);
         x.shorten();
