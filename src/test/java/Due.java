@@ -13,6 +13,10 @@ final class Due {
         System.out.println(call + " answered " + got + ", due is " + want);
     }
 
+    static int asked() {
+        return asked;
+    }
+
     /** Puts a row of a LANE with these numbers into a SHEET. */
     static void row(NeedOnce x, int sheet, int lane, int... numbers) {
         is("sheet", x.sheet(sheet, lane, numbers.length), 1);

@@ -4,7 +4,8 @@ import java.util.TreeMap;
 
 /** Random calls of the program and of the model, on the same random TEXTS, DAYS and SHEETS. */
 public final class RandomRunsTest {
-    private static final int RUNS = 3000, CALLS = 250;
+    /** No step makes as many as 90 calls, so that no object is called more than 512 times, which is all that is promised. */
+    private static final int RUNS = 16000, CALLS = 420;
     private static final int[] EDGES = {-1, 0, 1, 7, 8, 9, 10, 17, 18, 20, 21, 22, 59, 60, 61, 100, 101, 102, 103,
         200, 201, 255, 256, Integer.MIN_VALUE, Integer.MAX_VALUE, -2};
     private static final String SIGNS = "namitfr", ALL_SIGNS = "l;pdwnamitfr0123456789x";
@@ -14,6 +15,7 @@ public final class RandomRunsTest {
     private final NeedOnce x = new NeedOnce();
     private final Model y = new Model();
     private int cells = 0;
+    private int calls = 0;
 
     private RandomRunsTest(int seed) {
         random = new Random(seed);
@@ -22,7 +24,7 @@ public final class RandomRunsTest {
     public static void main(String[] args) {
         for (int seed = 1; seed <= RUNS; seed++) {
             RandomRunsTest run = new RandomRunsTest(seed);
-            for (int k = 0; k < CALLS; k++) run.step(seed);
+            while (run.calls < CALLS) run.step(seed);
         }
         String[] wanted = {"need 100", "need 101", "need 102", "plainly -9", "shorten 3", "heap -200s", "heap -100s",
             "day -100s", "latest 8", "ninth", "kinds 0", "kinds 1", "kinds 2", "kinds 4", "kinds 7"};
@@ -50,6 +52,7 @@ public final class RandomRunsTest {
     }
 
     private void same(int seed, String call, long got, long want) {
+        calls++;
         Due.is("seed " + seed + ": " + call, got, want);
     }
 
