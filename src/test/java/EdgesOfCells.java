@@ -295,6 +295,7 @@ final class EdgesOfCells {
         Edge.refusedAndNoFault("at once", -100, y -> y.heap(1, 0, 0, 5));
         Edge.refusedAndNoFault("of none", -100, y -> y.heap(0, 2, 5, 0));
         Edge.refusedAndNoFault("too soon", -127, y -> y.heap(0, 2, 0, 27));
+        cellsStay("l;w9n1;w9n1;w9n1;w9n", -120);
         Edge.says("-200 less the first CELL that is LOOSE.");
         text("l;p1f1", -200);
         text("l;p1n1;p1f2", -201);
@@ -302,6 +303,21 @@ final class EdgesOfCells {
         text("l;p1n0;p1n0;p1n0;p1n0;p1n0;p1n0;p1f7", -206);
         text("l;p1f2;p1f2", -200);
         Edge.refusedAndNoFault("loose", -200, y -> y.heap(0, 2, 0, 12));
+        cellsStay("l;w9n1;w9n1;w9n1;w9f7", -203);
+    }
+
+    /** Whatever is asked first behind a TEXT that is not taken, it is asked of the CELLS that were there. */
+    private static void cellsStay(String text, int want) {
+        NeedOnce x = Due.with("l;p1a11;p2m22;p3n4");
+        x.reading(0, 6);
+        Edge.Call[] calls = {y -> y.plainly(0), y -> y.kinds(0), y -> y.prices(0), y -> y.odds(0, 2, 50, 0),
+            y -> y.day(1, 0, 0, 1, 0), y -> y.ofCell(0, 11), y -> y.held(1), y -> y.many(0), y -> y.need(0)};
+        int[] due = {7, 1, 2, 1, 6, 1, 7, 3, 32};
+        Due.row(x, 1, 0, 0, 0);
+        for (int k = 0; k < calls.length; k++) {
+            Edge.is("heap of " + text, Due.heap(x, text), want);
+            Edge.is("call " + k + " behind it", calls[k].on(x), due[k]);
+        }
     }
 
     private static void heapFaults() {
