@@ -7,8 +7,11 @@ import java.nio.file.Path;
 import java.util.ArrayList;
 import java.util.Arrays;
 import java.util.List;
+import java.util.Map;
 import java.util.Set;
+import java.util.TreeMap;
 import java.util.TreeSet;
+import java.util.regex.Matcher;
 import java.util.regex.Pattern;
 
 /** The rules of LANGUAGE.md that can be read off the source and the compiled class; run from the project's folder. */
@@ -28,7 +31,9 @@ public final class LanguageTest {
     public static void main(String[] args) throws IOException {
         face();
         insides();
-        words(Files.readString(Path.of("src/main/java/NeedOnce.java")));
+        String source = Files.readString(Path.of("src/main/java/NeedOnce.java"));
+        words(source);
+        depth(source);
         Due.is("LOST", NeedOnce.LOST, Long.MIN_VALUE);
         Due.end();
     }
@@ -100,5 +105,30 @@ public final class LanguageTest {
             lines = begins || ends ? 0 : lines + 1;
             holds("rule 11: short methods: " + line, lines <= 60);
         }
+    }
+
+    /** Rule 11: calls that are no recursion go at most eight deep; methods of one name are taken for one. */
+    private static void depth(String source) {
+        Map<String, Set<String>> calls = new TreeMap<>();
+        Matcher method = Pattern.compile("(?ms)^( {4}| {8})(?:public|private) (?:static )?(?:\\w+ )?(\\w+)\\([^)]*\\) \\{\n(.*?)^\\1\\}")
+            .matcher(source);
+        while (method.find()) {
+            Set<String> called = calls.computeIfAbsent(method.group(2), name -> new TreeSet<>());
+            Matcher call = Pattern.compile("\\b([a-z]\\w*)\\(").matcher(method.group(3));
+            while (call.find()) called.add(call.group(1));
+        }
+        int deepest = 0;
+        for (String name : calls.keySet()) deepest = Math.max(deepest, depth(name, calls, new ArrayList<>()));
+        holds("rule 11: methods found " + calls.size(), calls.size() > FACE.length);
+        holds("rule 11: calls go " + deepest + " deep", deepest > 1 && deepest <= 8);
+    }
+
+    private static int depth(String name, Map<String, Set<String>> calls, List<String> open) {
+        if (!calls.containsKey(name) || open.contains(name)) return 0;
+        open.add(name);
+        int deepest = 0;
+        for (String called : calls.get(name)) deepest = Math.max(deepest, depth(called, calls, open));
+        open.remove(open.size() - 1);
+        return deepest + 1;
     }
 }
