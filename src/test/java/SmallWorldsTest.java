@@ -2,8 +2,9 @@ import java.util.ArrayList;
 import java.util.List;
 
 /**
- * All TEXTS of one and two CELLS, and each some of three, with all short runs of needing, SHORTENING and sleep, on
- * the program and on the model. Random runs may miss a small TEXT; here none is missed.
+ * All FORMS of one and two CELLS with all runs of three acts or more (need, SHORTENING, sleep), and some of three CELLS
+ * with one run each, on the program and on the model: random runs may miss a small TEXT. Kinds and PRICES are always the
+ * same here, and NUMBERs are 0 and 3 alone.
  */
 public final class SmallWorldsTest {
     /** From one TEXT of three CELLS with a run of acts on to the next: a prime, so that no kind of them is always left out. */
